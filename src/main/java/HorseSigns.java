@@ -806,10 +806,10 @@ public final class HorseSigns {
         /** One rider's part of a day: 1 if a hoof moved. */
         int moveHoof(int h) {
             int belief = beliefOf(h, day);
-            if (belief == NONE) {
+            int off = Math.abs(readingOf(h) - belief);
+            if (belief == NONE || off == 0) {
                 return 0;
             }
-            int off = Math.abs(readingOf(h) - belief);
             for (int leg = 0; leg < 4; leg++) {
                 int up = upOf[h] ^ 1 << leg;
                 if (Math.abs(reading(kindOf[h], up) - belief) < off && holds(up, weightOf[h])) {
@@ -831,21 +831,42 @@ public final class HorseSigns {
         }
 
         int passDays(int n) {
+            int limit = day + n;
             int rung = 0;
-            for (int d = 0; d < n; d++) {
-                rung += passDay();
+            for (int d = 0; d < n && day < limit; d++) {
+                int today = passDay();
+                rung += today;
+                if (today == 0) {
+                    day = dayOfNextReport(limit);
+                }
             }
             return rung;
         }
 
         /** Days of one rider alone: no rider's legs depend on another's. */
         int passDaysOf(int h, int n) {
+            int limit = day + n;
             int rung = 0;
-            for (int d = 0; d < n; d++) {
-                rung += moveHoof(h);
+            for (int d = 0; d < n && day < limit; d++) {
+                int today = moveHoof(h);
+                rung += today;
                 day++;
+                if (today == 0) {
+                    day = dayOfNextReport(limit);
+                }
             }
             return rung;
+        }
+
+        /** Behind a day on which no hoof moved all days are like it, until a report has its day. */
+        private int dayOfNextReport(int limit) {
+            int next = limit;
+            for (int i = 0; i < reports; i++) {
+                if (reportDay[i] >= day && reportDay[i] < next) {
+                    next = reportDay[i];
+                }
+            }
+            return next;
         }
     }
 

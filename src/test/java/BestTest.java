@@ -61,6 +61,9 @@ public final class BestTest {
         Check.due("liar(9, 1)", x.liar(9, 1), 2);
         Check.due("liar(60, 0)", x.liar(60, 0), 2);
         Check.due("trust(2) is as it was", x.trust(2), 2);
+        HorseSigns first = Check.told("plain 0 1;plain 0 1;on 0 0 0 2;on 0 3 1 1;");
+        Check.due("liar(9, 0): the first reporter", first.liar(9, 0), 0);
+        Check.due("liar(9, 1): the first reporter", first.liar(9, 1), 1);
         wrongRuns(x);
     }
 
@@ -105,6 +108,10 @@ public final class BestTest {
         x.burn(1);
         Check.due("swap(0, 0) of one", x.swap(0, 0), HorseSigns.NONE);
         Check.due("swap(0, 1) of one", x.swap(0, 1), HorseSigns.NONE);
+        HorseSigns many = Check.told("plain 0 99;plain 1 99;plain 0 99;plain 1 99;"
+                + "on 0 0 0 1;on 0 0 1 0;on 0 0 2 1;on 0 0 3 0;");
+        Check.due("swap(0, 0): of several the least", many.swap(0, 0), 1);
+        Check.due("swap(0, 1): of several the least", many.swap(0, 1), 2);
         HorseSigns high = Check.told("plain 0 99;plain 0 99;plain 1 1;on 9 0 0 0;on 9 0 0 0;on 0 0 1 1;on 0 0 2 0;");
         Check.due("swap(0, 0) of the 3rd and 4th", high.swap(0, 0), 23);
         Check.due("report(2, 2) is as it was", high.report(2, 2), 1);

@@ -65,6 +65,11 @@ public final class SeenTest {
         Check.due("ask(0, 1)", x.ask(0, 1), 1);
         Check.due("ask(1, 0)", x.ask(1, 0), 1);
         Check.due("ask(1, 1)", x.ask(1, 1), 1);
+        x.see(2, 1, 1);
+        Check.due("ups(1)", x.ups(1), 3);
+        Check.due("ask(1, 0), two are left", x.ask(1, 0), 1);
+        Check.due("ask(1, 1), two are left", x.ask(1, 1), 1);
+        x.forget(0);
         x.see(0, 1, 0);
         Check.due("ask(1, 0), one is left", x.ask(1, 0), HorseSigns.NONE);
         Check.due("ask(1, 1), one is left", x.ask(1, 1), HorseSigns.NONE);

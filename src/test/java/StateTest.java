@@ -181,6 +181,10 @@ public final class StateTest {
         for (int what = 0; what < counts.length; what++) {
             Check.due("count(" + what + ")", x.count(what), counts[what]);
         }
+        Check.tell(x, "");
+        Check.due("count(4) of none behind five", x.count(4), 0);
+        x = Check.told(TEXT);
+        x.keep(1);
         x.keep(0);
         x.keep(0);
         Check.due("count(1)", x.count(1), 2);

@@ -91,6 +91,8 @@ public final class TextTest {
         faulty("pony 1 1;", 0, 2);
         faulty("plai 1 1;", 0, 2);
         faulty("plainx 1 1;", 0, 2);
+        faulty("plainz 1 1;", 0, 2);
+        faulty("xlain 1 1;", 0, 2);
         faulty(";", 0, 2);
         faulty("1", 0, 2);
         faulty("plain 1 1;;", 10, 2);
