@@ -627,15 +627,18 @@ public final class HorseSigns {
         return fitting;
     }
 
-    /** One rider's clangs, each way its own reports may be lost weighed by its odds. */
+    /**
+     * One rider's clangs, each way its own reports may be lost weighed by its odds. Riders do not move
+     * one another's legs, and those of whom nothing is heard stay still, so each has its sum by itself.
+     */
     private long clangsByOdds(int v, int h, int n) {
         int own = now.reportsOn(h);
         long sum = 0;
         for (int lost = 0; lost < 1 << REPORTS; lost++) {
             if ((lost & ~own) == 0) {
                 trial.copyFrom(now);
-                trial.unheard = lost;
-                sum += oddsOf(v, lost, own) * trial.passDaysOf(h, n);
+                trial.unheard = lost | ~own;
+                sum += oddsOf(v, lost, own) * trial.passDays(n);
             }
         }
         return sum;
@@ -836,21 +839,6 @@ public final class HorseSigns {
             for (int d = 0; d < n && day < limit; d++) {
                 int today = passDay();
                 rung += today;
-                if (today == 0) {
-                    day = dayOfNextReport(limit);
-                }
-            }
-            return rung;
-        }
-
-        /** Days of one rider alone: no rider's legs depend on another's. */
-        int passDaysOf(int h, int n) {
-            int limit = day + n;
-            int rung = 0;
-            for (int d = 0; d < n && day < limit; d++) {
-                int today = moveHoof(h);
-                rung += today;
-                day++;
                 if (today == 0) {
                     day = dayOfNextReport(limit);
                 }
