@@ -142,7 +142,10 @@ public final class HorseSigns {
     }
 
     public int send(int day, int r, int h, int e) {
-        return admit(day, r, h, e);
+        if (!isDay(day) || !isReporter(r) || !isRider(h) || !isEnd(e)) {
+            return BAD;
+        }
+        return now.addReport(day, r, h, e) ? now.reports : FULL;
     }
 
     public int burn(int n) {
@@ -502,7 +505,7 @@ public final class HorseSigns {
                 readFault = found;
                 return i;
             }
-            if (admitFrom(k, at) < 0) {
+            if (sendFrom(k, at) < 0) {
                 now.reports = had;
                 return REFUSED_BASE - i;
             }
@@ -600,15 +603,8 @@ public final class HorseSigns {
         return k == 0 ? firstImage : secondImage;
     }
 
-    private int admit(int day, int r, int h, int e) {
-        if (!isDay(day) || !isReporter(r) || !isRider(h) || !isEnd(e)) {
-            return BAD;
-        }
-        return now.addReport(day, r, h, e) ? now.reports : FULL;
-    }
-
-    private int admitFrom(int k, int at) {
-        return admit(sheets.cell(k, at), sheets.cell(k, at + 1),
+    private int sendFrom(int k, int at) {
+        return send(sheets.cell(k, at), sheets.cell(k, at + 1),
                 sheets.cell(k, at + 2), sheets.cell(k, at + 3));
     }
 
