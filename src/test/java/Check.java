@@ -14,6 +14,14 @@ final class Check {
         }
     }
 
+    static void same(String what, String got, String want) {
+        asked++;
+        if (!got.equals(want)) {
+            wrong++;
+            System.out.println(what + ": " + got + "\n  due is: " + want);
+        }
+    }
+
     /** Feeds a text and reads it: what text() answers. */
     static int tell(HorseSigns x, String text) {
         for (int i = 0; i < text.length(); i++) {
