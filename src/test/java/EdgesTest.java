@@ -104,6 +104,10 @@ public final class EdgesTest {
         }
         Check.due("days(20)", x.days(20), 1);
         Check.due("days(1)", x.days(1), 1);
+        HorseSigns next = of("plain 0 1;trust 1 2;trust 2 4;on 1 0 0 1;on 4 1 0 0;on 5 2 0 1;on 30 3 0 2;");
+        Check.due("a report on the day behind a quiet one: ahead(0, 2, 0)", next.ahead(0, 2, 0), 1);
+        Check.due("runs(60, 0)", next.runs(60, 0), 3);
+        Check.due("days(30)", next.days(30), 3);
     }
 
     // ---- promises 2 to 5
@@ -416,6 +420,9 @@ public final class EdgesTest {
         HorseSigns equal = of("plain 0 99;plain 0 99;plain 0 1;on 9 0 2 1;on 0 0 1 1;on 0 0 0 1;");
         Check.due("of several the first: lose(0, 0)", equal.lose(0, 0), 1);
         Check.due("of several the first: lose(0, 1)", equal.lose(0, 1), 2);
+        HorseSigns moving = of("plain 0 1;plain 0 1;on 0 0 1 0;on 0 0 0 3;");
+        Check.due("each is left out from now on: lose(2, 0)", moving.lose(2, 0), 1);
+        Check.due("each is left out from now on: lose(2, 1)", moving.lose(2, 1), 2);
     }
 
     /** "10 times the lesser and the greater, of several the least", "NONE: by none". */
@@ -436,6 +443,8 @@ public final class EdgesTest {
         Check.due("the 7th and the 8th: swap(0, 1)", last.swap(0, 1), 3);
         HorseSigns same = of("plain 0 99;on 0 0 0 1;on 0 0 0 1;");
         Check.due("of one rider: swap(0, 0)", same.swap(0, 0), NONE);
+        HorseSigns both = of("plain 0 99;plain 1 1;trust 0 2;on 0 0 0 1;on 0 1 1 0;");
+        Check.due("both change their riders: swap(0, 1)", both.swap(0, 1), 2);
         HorseSigns late = of("plain 0 99;plain 1 99;on 60 0 0 1;on 60 0 1 2;");
         Check.due("swap(59, 0)", late.swap(59, 0), NONE);
         Check.due("swap(60, 0)", late.swap(60, 0), 1);
@@ -495,6 +504,12 @@ public final class EdgesTest {
             Check.due("luck(" + v + ", 0, " + e + ", " + day + ", 0)", x.luck(v, 0, e, day, 0), d[3]);
             Check.due("luck(" + v + ", 0, " + e + ", " + day + ", 1)", x.luck(v, 0, e, day, 1), d[4]);
         }
+        x.rely(0, 0);
+        Check.due("of trust that is 0 now", x.luck(1, 0, 1, 0, 0), 0);
+        x.rely(1, 1);
+        Check.due("of trust that is 1 now", x.luck(1, 0, 3, 0, 0), 9);
+        x.burn(0);
+        Check.due("of a report that is gone now", x.luck(1, 0, 3, 0, 0), 0);
         Check.due("of nobody's report", of("plain 0 1;").luck(5, 0, 0, 0, 0), 0);
         Check.due("of nobody's report, below", of("plain 0 1;").luck(5, 0, 0, 0, 1), 1);
     }
@@ -514,6 +529,25 @@ public final class EdgesTest {
         HorseSigns against = of("plain 0 1;trust 1 2;on 0 0 0 3;on 0 1 0 0;");
         Check.due("a false report may make more: above", against.mean(1, 3, 0), 27);
         Check.due("a false report may make more: below", against.mean(1, 3, 1), 100);
+    }
+
+    /** All of the eight reports, on one rider and on each of five. */
+    private static void oddsOfEight() {
+        HorseSigns one = of("plain 0 1;" + "on 0 0 0 2;".repeat(8));
+        Check.due("luck by 9 above", one.luck(9, 0, 2, 0, 0), 56953279);
+        Check.due("luck by 9 below", one.luck(9, 0, 2, 0, 1), 100000000);
+        Check.due("mean by 9 above", one.mean(9, 2, 0), 56953279);
+        Check.due("mean by 9 below", one.mean(9, 2, 1), 50000000);
+        HorseSigns five = of("plain 0 1;".repeat(5));
+        for (int i = 0; i < 8; i++) {
+            five.send(0, i % 4, i % 5, 1);
+        }
+        for (int h = 0; h < 5; h++) {
+            Check.due("luck of " + h + " above", five.luck(9, h, 1, 0, 0), h < 3 ? 19 : 1);
+            Check.due("luck of " + h + " below", five.luck(9, h, 1, 0, 1), h < 3 ? 100 : 10);
+        }
+        Check.due("mean of five above", five.mean(9, 20, 0), 77);
+        Check.due("mean of five below", five.mean(9, 20, 1), 100);
     }
 
     // ---- promises 31 to 36
@@ -574,7 +608,11 @@ public final class EdgesTest {
         x.see(20, 4, 0);
         Check.due("ups(4)", x.ups(4), 65535 - 32768);
         Check.due("ask(4, 0)", x.ask(4, 0), 4);
-        x.see(0, 4, 8);
+        x.see(1, 4, 4);
+        Check.due("ups(4): of 5 and of 6 up the first comes down", x.ups(4), 32 + 64);
+        Check.due("two are left: ask(4, 0)", x.ask(4, 0), 4);
+        Check.due("two are left: ask(4, 1)", x.ask(4, 1), 1);
+        x.see(0, 4, 6);
         Check.due("one is left: ask(4, 0)", x.ask(4, 0), NONE);
         Check.due("one is left: ask(4, 1)", x.ask(4, 1), NONE);
         x.see(0, 3, 1);
@@ -675,6 +713,7 @@ public final class EdgesTest {
                 Check.due("sheet of 41", x.sheet(k, lane, 41), BAD);
                 Check.due("sheet of -1", x.sheet(k, lane, -1), -14);
                 Check.due("sheet of 40", x.sheet(k, lane, 40), 1);
+                Check.due("its first cell", x.lay(k, 0, 3), 1);
                 Check.due("its last cell", x.lay(k, 39, 3), 1);
                 Check.due("behind its last cell", x.lay(k, 40, 3), -12);
                 Check.due("the last report", x.read(k, lane, 36, 1), 1);
@@ -682,6 +721,8 @@ public final class EdgesTest {
                 Check.due("anew", x.sheet(k, lane, 40), 1);
                 Check.due("the last report", x.read(k, lane, 36, 1), 1);
                 Check.due("its END is 0", x.report(1, 3), 0);
+                Check.due("the first report", x.read(k, lane, 0, 1), 1);
+                Check.due("its DAY is 0", x.report(2, 0), 0);
                 Check.due("sheet of 0", x.sheet(k, lane, 0), 1);
                 Check.due("no cell of it", x.lay(k, 0, 3), -12);
                 x.burn(0);
@@ -903,6 +944,7 @@ public final class EdgesTest {
         bestKind();
         falseOnes();
         meanOfClangs();
+        oddsOfEight();
     }
 
     private static void seen() {

@@ -266,6 +266,14 @@ public final class TermsTest {
         }
         faulty(lines[0] + "  plain  0  ", 2, 22);
         faulty("pony 0 1;", 2, 0);
+        for (String name : new String[] {"xlain", "plaix", "parshal", "marshax", "msurper", "usurpex", "luiet", "quiex"}) {
+            faulty(name + " 0 1;", 2, 0);
+            faulty(name.substring(1) + " 0 1;", 2, 0);
+            faulty(name + "s 0 1;", 2, 0);
+        }
+        for (String name : new String[] {"fears", "bearz", "crust", "trusz", "an", "ox", "o", "n", "onn", "bear", "trusts"}) {
+            faulty(name + " 0 1 0 0;", 2, 0);
+        }
         faulty(lines[0] + " ons 0 0 0 0;", 2, 11);
         faulty(lines[0] + "7 0 1;", 2, 10);
         faulty(lines[0] + ";", 2, 10);
@@ -348,6 +356,21 @@ public final class TermsTest {
         Check.due("rider(1, 0): none is left", x.rider(1, 0), BAD);
     }
 
+    /** The same, behind questions that tried out days and left reports out. */
+    private static void tellsAllBehindQuestions() {
+        HorseSigns x = Check.told("plain 0 9;on 0 0 0 3;");
+        x.days(2);
+        x.lose(30, 0);
+        x.luck(5, 0, 3, 9, 0);
+        x.mean(5, 9, 0);
+        Check.due("a text", Check.tell(x, "plain 0 1;on 0 0 0 1;on 0 0 0 2;on 0 0 0 2;"), 4);
+        Check.due("DAY", x.rule(2), 0);
+        Check.due("CLANGS", x.rule(3), 0);
+        Check.due("all its reports are heard", x.believed(0, 0), 2);
+        Check.due("told(0, 1, 0)", x.told(0, 1, 0), 1);
+        Check.due("told(0, 2, 0)", x.told(0, 2, 0), 2);
+    }
+
     public static void main(String[] args) {
         fractions();
         ridersAtMost();
@@ -371,6 +394,7 @@ public final class TermsTest {
         twice();
         missingRider();
         tellsAll();
+        tellsAllBehindQuestions();
         Check.finish("TermsTest");
     }
 }
