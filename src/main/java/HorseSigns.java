@@ -719,15 +719,13 @@ public final class HorseSigns {
             clangs = other.clangs;
         }
 
-        boolean addRider(int kind, int up, int weight) {
-            if (riders >= RIDERS) {
-                return false;
+        void addRider(int kind, int up, int weight) {
+            if (riders < RIDERS) {
+                kindOf[riders] = kind;
+                upOf[riders] = up;
+                weightOf[riders] = weight;
+                riders++;
             }
-            kindOf[riders] = kind;
-            upOf[riders] = up;
-            weightOf[riders] = weight;
-            riders++;
-            return true;
         }
 
         boolean addReport(int onDay, int by, int on, int end) {

@@ -125,12 +125,11 @@ public final class FaceTest {
         dearest(x);
         com.sun.management.ThreadMXBean bean =
                 (com.sun.management.ThreadMXBean) java.lang.management.ManagementFactory.getThreadMXBean();
-        long id = Thread.currentThread().getId();
-        long before = bean.getThreadAllocatedBytes(id);
+        long before = bean.getCurrentThreadAllocatedBytes();
         for (int i = 0; i < 20; i++) {
             dearest(x);
         }
-        long made = bean.getThreadAllocatedBytes(id) - before;
+        long made = bean.getCurrentThreadAllocatedBytes() - before;
         holds("calls make no objects (" + made + " bytes)", made < 10000);
     }
 
